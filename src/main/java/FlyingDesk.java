@@ -56,7 +56,6 @@ public final class FlyingDesk {
         pieces[piece].hangs = true;
         pieces[piece].weight = weight;
         pieces[piece].hoists = Integer.bitCount(hoists);
-        pieces[piece].reason = 0;
         pieces[piece].box.take(trial);
         masters.putAt(piece, 0);
         for (int i = 0; i < HOISTS; i++) {
@@ -426,7 +425,6 @@ public final class FlyingDesk {
     private void findMovers(int arming) {
         for (int i = 0; i < PIECES; i++) {
             moverCue[i] = NONE;
-            moverMove[i] = NONE;
             furthest[i] = masters.place[i];
         }
         for (int i = 0; i < CUES; i++) {
@@ -436,24 +434,28 @@ public final class FlyingDesk {
         }
     }
 
-    /** A move is only AFTER a lower one, so how far that one gets is known before it is asked for. */
     private void findMovesOf(int cue) {
         for (int i = 0; i < cues[cue].count; i++) {
             Move move = cues[cue].moves[i];
             moverCue[move.piece] = cue;
             moverMove[move.piece] = i;
-            if (move.after != NONE) {
-                Move other = cues[cue].moves[move.after];
-                if (!masters.reached(other, furthest[other.piece], move.afterPlace)) {
-                    continue;
-                }
+            if (couldGo(cues[cue], move)) {
+                furthest[move.piece] = move.goal;
             }
-            furthest[move.piece] = move.goal;
         }
     }
 
+    /** A move is only AFTER a lower one, so how far that one could get is known already. */
+    private boolean couldGo(Cue cue, Move move) {
+        if (move.after == NONE) {
+            return true;
+        }
+        Move other = cue.moves[move.after];
+        return masters.reached(other, furthest[other.piece], move.afterPlace);
+    }
+
     private boolean couldMeet(int a, int b) {
-        // At most one of the two holds the other back; the looser answer of the other order adds nothing.
+        // Where one of them holds the other back, that order is the strict one, and the other order refuses no more.
         return pieces[a].hangs && pieces[b].hangs && pieces[a].box.sharesFloor(pieces[b].box)
             && couldShareHeight(a, b) && couldShareHeight(b, a);
     }
@@ -473,7 +475,7 @@ public final class FlyingDesk {
     /** The leader's place from which on the follower can go: where it is now, if it does not hold the other back. */
     private int letsGoAt(int leader, int follower) {
         int here = masters.place[leader];
-        if (moverCue[follower] == NONE || moverCue[follower] != moverCue[leader]) {
+        if (moverCue[follower] == NONE) {
             return here;
         }
         Cue cue = cues[moverCue[follower]];

@@ -306,24 +306,30 @@ public final class ArmingTest {
     }
 
     private static void otherCues() {
+        otherCue(0, 6);
+        otherCue(6, 0);
+        otherCue(1, 2);
+    }
+
+    private static void otherCue(int first, int second) {
         FlyingDesk desk = column(200, 50);
-        desk.move(1, 0, 100, 12);
-        desk.move(2, 1, 150, 12);
-        check.same("down to 100", NONE, desk.arm(1));
-        check.same("up to 150, while the other may be at 100", 1, desk.arm(2));
-        check.same("is left IDLE", 0, desk.cue(2, 0));
+        desk.move(first, 0, 100, 12);
+        desk.move(second, 1, 150, 12);
+        check.same("down to 100", NONE, desk.arm(first));
+        check.same("up to 150, while the other may be at 100", 1, desk.arm(second));
+        check.same("is left IDLE", 0, desk.cue(second, 0));
         desk.go(0);
         desk.handle(0, false);
         desk.tick(1);
-        check.same("PAUSED", 3, desk.cue(1, 0));
-        check.same("still it may", 1, desk.arm(2));
+        check.same("PAUSED", 3, desk.cue(first, 0));
+        check.same("still it may", 1, desk.arm(second));
         desk.handle(0, true);
         desk.go(0);
         desk.tick(3);
-        check.same("RUNNING", 2, desk.cue(1, 0));
-        check.same("still", 1, desk.arm(2));
+        check.same("RUNNING", 2, desk.cue(first, 0));
+        check.same("still", 1, desk.arm(second));
         desk.halt(0);
-        check.same("now it stands", NONE, desk.arm(2));
+        check.same("now it stands", NONE, desk.arm(second));
     }
 
     /** Of a cue that runs, what it has passed counts no more, and REACHED is told by where it began. */

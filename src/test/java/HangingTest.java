@@ -9,6 +9,7 @@ public final class HangingTest {
         hangRefusals();
         hangOrderOfExceptions();
         hangAgain();
+        hangForgetsTheLastFrame();
         unhang();
         unhangRefusals();
         box();
@@ -56,6 +57,8 @@ public final class HangingTest {
         desk.hang(1, 4, 5, 1, 0);
         desk.hang(2, 8, 5, 0, 1);
         check.same("touches two sides", 1, desk.piece(2, 0));
+        desk.tick(1);
+        check.same("no link loses frames at first", 0, desk.hoist(0, 1));
     }
 
     private static void hangRefusals() {
@@ -82,6 +85,10 @@ public final class HangingTest {
         check.noState("it would meet with its width", desk, () -> desk.hang(1, 8, 30, 6, 10));
         desk.hang(1, 8, 30, 5, 10);
         check.same("beside it", 1, desk.piece(1, 0));
+        desk.box(2, 20, 20, 20);
+        desk.box(3, 1, 1, 1);
+        check.noState("with its own box, not the latest one", desk, () -> desk.hang(2, 16, 30, 0, 0));
+        check.noState("hoist 0", desk, () -> desk.hang(3, 1, 30, 90, 90));
     }
 
     private static void hangOrderOfExceptions() {
@@ -142,6 +149,39 @@ public final class HangingTest {
         check.same("drive 1 is still stuck", 0, desk.hoist(1, 0));
     }
 
+    /** A drive that has got no frame yet stays at the floor, whatever an earlier piece's frames said. */
+    private static void hangForgetsTheLastFrame() {
+        FlyingDesk desk = new FlyingDesk();
+        desk.hang(0, 1, 100, 0, 0);
+        desk.handle(0, true);
+        raise(desk, 0, 3);
+        desk.clear(0);
+        desk.move(0, 0, 0, 12);
+        desk.arm(0);
+        desk.go(0);
+        desk.lose(0, 2);
+        desk.tick(3);
+        check.same("at the floor", 0, desk.piece(0, 1));
+        check.same("three units in the last tick", 3, desk.hoist(0, 5));
+        desk.unhang(0);
+        check.same("which it keeps", 3, desk.hoist(0, 5));
+        check.same("though it does not go", 0, desk.tick(1));
+        desk.hang(0, 1, 100, 0, 0);
+        check.same("went nowhere", 0, desk.hoist(0, 5));
+        raise(desk, 0, 3);
+        desk.clear(0);
+        desk.move(0, 0, 0, 12);
+        desk.arm(0);
+        desk.go(0);
+        desk.lose(0, 6);
+        desk.tick(3);
+        desk.unhang(0);
+        desk.hang(0, 1, 100, 0, 0);
+        desk.tick(1);
+        check.same("its latest frame says 0", 0, desk.hoist(0, 0));
+        check.same("one of the three that are left is lost", 1, desk.hoist(0, 1));
+    }
+
     private static void unhang() {
         FlyingDesk desk = new FlyingDesk();
         desk.hang(2, 1, 50, 20, 20);
@@ -192,6 +232,7 @@ public final class HangingTest {
     }
 
     private static void box() {
+        boxAtFirst();
         FlyingDesk desk = new FlyingDesk();
         desk.hang(0, 1, 50, 0, 0);
         desk.hang(1, 2, 50, 40, 0);
@@ -208,6 +249,23 @@ public final class HangingTest {
         check.noState("40 deep would meet piece 4", desk, () -> desk.box(0, 1, 40, 1));
         desk.box(0, 1, 39, 1);
         check.no("39 deep does not", desk.meets(0, 4));
+    }
+
+    private static void boxAtFirst() {
+        FlyingDesk desk = new FlyingDesk();
+        desk.handle(0, true);
+        desk.hang(4, 1, 50, 7, 7);
+        raise(desk, 4, 1);
+        desk.hang(5, 2, 50, 7, 7);
+        check.no("one high, one up", desk.meets(4, 5));
+        desk.hang(0, 4, 50, 8, 7);
+        desk.hang(1, 8, 50, 7, 8);
+        check.no("one wide", desk.meets(5, 0));
+        check.no("one deep", desk.meets(5, 1));
+        raise(desk, 5, 0);
+        desk.clear(0);
+        desk.move(0, 4, 0, 1);
+        check.same("piece 5 is in the way of piece 4", 45, desk.arm(0));
     }
 
     private static void boxRefusals() {
@@ -272,9 +330,11 @@ public final class HangingTest {
         check.no("no two", desk.meets(7, -2));
         desk.unhang(1);
         check.no("not while it does not hang", desk.meets(0, 1));
+        check.yes("the last piece still does", desk.meets(0, 5));
     }
 
     private static void raise(FlyingDesk desk, int piece, int place) {
+        desk.clear(0);
         desk.move(0, piece, place, 12);
         desk.arm(0);
         desk.go(0);
@@ -288,6 +348,7 @@ public final class HangingTest {
         desk.move(0, 0, 0, 12);
         desk.arm(0);
         desk.hang(1, 2, 50, 2, 2);
+        desk.hang(5, 4, 50, 3, 3);
         desk.go(0);
         desk.tick(2);
         check.same("lower", 9, desk.piece(0, 1));

@@ -275,6 +275,8 @@ public final class PlanTest {
         check.same("moveOf what -1", NONE, desk.moveOf(0, 1, -1));
         check.same("moveOf move 2", NONE, desk.moveOf(0, 2, 0));
         check.same("moveOf move -1", NONE, desk.moveOf(0, -1, 0));
+        desk.move(7, 2, 1, 1);
+        check.same("moveOf cue 7", 2, desk.moveOf(7, 0, 0));
         check.same("moveOf cue 8", NONE, desk.moveOf(8, 0, 0));
         check.same("moveOf cue -1", NONE, desk.moveOf(-1, 0, 0));
     }

@@ -59,10 +59,15 @@ public final class ReasonTest {
         above.tick(50);
         above.stick(0, true);
         above.clear(0);
-        above.move(0, 0, 0, 12);
+        above.move(0, 0, 1, 12);
         above.arm(0);
         above.go(0);
         above.tick(50);
+        check.same("20 units above", 0, above.piece(0, 3));
+        above.move(1, 0, 0, 12);
+        above.arm(1);
+        above.go(0);
+        above.tick(1);
         check.same("21 units above", 2, above.piece(0, 3));
     }
 

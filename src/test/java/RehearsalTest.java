@@ -34,6 +34,12 @@ public final class RehearsalTest {
         check.same("a cue without moves", NONE, desk.rehearse(1, 0, 1));
         check.same("piece -1", NONE, desk.rehearse(0, -1, 1));
         check.same("piece 6", NONE, desk.rehearse(0, 6, 1));
+        desk.move(7, 5, 50, 5);
+        desk.move(7, 1, 50, 5);
+        check.same("the first of its pieces does not hang", NONE, desk.rehearse(7, 1, 1));
+        desk.hang(5, 32, 100, 90, 90);
+        check.same("cue 7", 1, desk.rehearse(7, 5, 1));
+        desk.unhang(5);
         desk.move(0, 5, 50, 5);
         check.same("another of its pieces does not hang", NONE, desk.rehearse(0, 0, 1));
         check.same("the piece does not hang", NONE, desk.rehearse(0, 5, 1));
