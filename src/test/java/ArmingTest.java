@@ -4,9 +4,6 @@ public final class ArmingTest {
     private static final Check check = new Check("ArmingTest");
 
     public static void main(String[] args) {
-        states();
-        refusals();
-        busyPieces();
         standingPieces();
         touching();
         wholeWays();
@@ -24,8 +21,8 @@ public final class ArmingTest {
     }
 
     /** A desk with its handles held, and pieces of 10 x 10 x 10 at one spot, at these places. */
-    private static FlyingDesk column(int... places) {
-        FlyingDesk desk = new FlyingDesk();
+    private static Desk column(int... places) {
+        Desk desk = new Desk();
         for (int station = 0; station < 3; station++) {
             desk.handle(station, true);
         }
@@ -42,73 +39,8 @@ public final class ArmingTest {
         return desk;
     }
 
-    private static void states() {
-        FlyingDesk desk = new FlyingDesk();
-        desk.hang(0, 1, 100, 0, 0);
-        desk.move(0, 0, 3, 1);
-        check.same("IDLE", NONE, desk.arm(0));
-        check.same("ARMED", 1, desk.cue(0, 0));
-        check.noState("ARMED", desk, () -> desk.arm(0));
-        desk.handle(0, true);
-        desk.go(0);
-        check.noState("RUNNING", desk, () -> desk.arm(0));
-        desk.handle(0, false);
-        desk.tick(1);
-        check.noState("PAUSED", desk, () -> desk.arm(0));
-        desk.handle(0, true);
-        desk.go(0);
-        desk.tick(5);
-        check.same("DONE", 4, desk.cue(0, 0));
-        check.same("from DONE", NONE, desk.arm(0));
-        check.same("ARMED again", 1, desk.cue(0, 0));
-        desk.halt(0);
-        check.same("from STOPPED", NONE, desk.arm(0));
-        desk.go(0);
-        desk.tick(1);
-        check.same("at its goal already: DONE", 4, desk.cue(0, 0));
-    }
-
-    private static void refusals() {
-        FlyingDesk desk = new FlyingDesk();
-        check.noIndex("cue -1", desk, () -> desk.arm(-1));
-        check.noIndex("cue 8", desk, () -> desk.arm(8));
-        check.noState("no moves", desk, () -> desk.arm(0));
-        desk.move(0, 0, 10, 1);
-        check.noState("its piece does not hang", desk, () -> desk.arm(0));
-        desk.hang(0, 1, 100, 0, 0);
-        desk.move(0, 1, 10, 1);
-        check.noState("one of its pieces does not hang", desk, () -> desk.arm(0));
-        desk.hang(1, 2, 100, 50, 0);
-        desk.cell(1, 0);
-        desk.tick(1);
-        check.noState("one of its pieces has a REASON", desk, () -> desk.arm(0));
-        desk.cell(1, NONE);
-        desk.clearReason(1);
-        check.same("none has", NONE, desk.arm(0));
-    }
-
-    private static void busyPieces() {
-        FlyingDesk desk = new FlyingDesk();
-        desk.hang(0, 1, 100, 0, 0);
-        desk.hang(1, 2, 100, 50, 0);
-        desk.move(0, 0, 10, 1);
-        desk.move(1, 1, 10, 1);
-        desk.move(1, 0, 20, 1);
-        desk.arm(0);
-        check.noState("moved by one that is ARMED", desk, () -> desk.arm(1));
-        desk.handle(0, true);
-        desk.go(0);
-        check.noState("moved by one that is RUNNING", desk, () -> desk.arm(1));
-        desk.handle(0, false);
-        desk.tick(1);
-        check.noState("moved by one that is PAUSED", desk, () -> desk.arm(1));
-        desk.halt(0);
-        check.same("moved by one that is STOPPED", NONE, desk.arm(1));
-        check.noState("now the other way", desk, () -> desk.arm(0));
-    }
-
     private static void standingPieces() {
-        FlyingDesk desk = column(100, 50, 0);
+        Desk desk = column(100, 50, 0);
         desk.move(1, 2, 300, 12);
         check.same("up through two others", 2, desk.arm(1));
         check.same("it is not armed", 0, desk.cue(1, 0));
@@ -125,7 +57,7 @@ public final class ArmingTest {
 
     /** Boxes that only touch, on any side, do not meet. */
     private static void touching() {
-        FlyingDesk desk = column(100);
+        Desk desk = column(100);
         for (int piece = 1; piece <= 4; piece++) {
             desk.box(piece, 10, 10, 10);
         }
@@ -144,7 +76,7 @@ public final class ArmingTest {
 
     /** A way that begins and ends clear of a box may still go through it. */
     private static void wholeWays() {
-        FlyingDesk desk = column(200, 30);
+        Desk desk = column(200, 30);
         desk.move(1, 0, 10, 12);
         check.same("down through it", 1, desk.arm(1));
         desk.clear(1);
@@ -174,7 +106,7 @@ public final class ArmingTest {
     }
 
     private static void firstPair() {
-        FlyingDesk desk = column(200, 150, 100, 50);
+        Desk desk = column(200, 150, 100, 50);
         desk.move(1, 2, 160, 12);
         desk.move(1, 3, 110, 12);
         check.same("the lower one first", 12, desk.arm(1));
@@ -187,7 +119,7 @@ public final class ArmingTest {
     }
 
     private static void followers() {
-        FlyingDesk desk = column(100, 50);
+        Desk desk = column(100, 50);
         desk.move(1, 0, 300, 12);
         desk.move(1, 1, 200, 12);
         check.same("without an order", 1, desk.arm(1));
@@ -212,7 +144,7 @@ public final class ArmingTest {
     }
 
     private static void followerOfAFollower() {
-        FlyingDesk desk = column(150, 100, 50);
+        Desk desk = column(150, 100, 50);
         desk.move(1, 0, 400, 12);
         desk.move(1, 1, 300, 12);
         desk.move(1, 2, 250, 12);
@@ -236,7 +168,7 @@ public final class ArmingTest {
     }
 
     private static void leadersThatNeverLetGo() {
-        FlyingDesk desk = column(100, 50);
+        Desk desk = column(100, 50);
         desk.move(1, 0, 300, 12);
         desk.move(1, 1, 400, 12);
         desk.after(1, 1, 0, 301);
@@ -255,7 +187,7 @@ public final class ArmingTest {
     }
 
     private static void reachedAtOnce() {
-        FlyingDesk desk = column(100, 50);
+        Desk desk = column(100, 50);
         desk.move(1, 0, 300, 12);
         desk.move(1, 1, 200, 12);
         desk.after(1, 1, 0, 100);
@@ -271,7 +203,7 @@ public final class ArmingTest {
     }
 
     private static void leadersThatGoDown() {
-        FlyingDesk desk = column(200, 100);
+        Desk desk = column(200, 100);
         desk.hang(2, 4, 100, 90, 90);
         desk.move(1, 1, 20, 12);
         desk.move(1, 2, 30, 12);
@@ -286,7 +218,7 @@ public final class ArmingTest {
 
     /** Two followers of one leader may both go once it is there. */
     private static void siblings() {
-        FlyingDesk desk = column(100, 50);
+        Desk desk = column(100, 50);
         desk.hang(2, 4, 100, 90, 90);
         desk.move(1, 2, 50, 12);
         desk.move(1, 0, 70, 12);
@@ -312,7 +244,7 @@ public final class ArmingTest {
     }
 
     private static void otherCue(int first, int second) {
-        FlyingDesk desk = column(200, 50);
+        Desk desk = column(200, 50);
         desk.move(first, 0, 100, 12);
         desk.move(second, 1, 150, 12);
         check.same("down to 100", NONE, desk.arm(first));
@@ -334,7 +266,7 @@ public final class ArmingTest {
 
     /** Of a cue that runs, what it has passed counts no more, and REACHED is told by where it began. */
     private static void runningLeader() {
-        FlyingDesk desk = column(200, 150);
+        Desk desk = column(200, 150);
         desk.hang(2, 4, 100, 90, 90);
         desk.move(1, 0, 300, 12);
         desk.move(1, 2, 60, 12);
@@ -360,7 +292,7 @@ public final class ArmingTest {
 
     /** Two that already meet are told too, though the cue moves neither. */
     private static void everyPair() {
-        FlyingDesk desk = new FlyingDesk();
+        Desk desk = new Desk();
         desk.handle(0, true);
         desk.hang(1, 2, 100, 5, 5);
         desk.move(1, 1, 8, 12);

@@ -1,7 +1,11 @@
-import java.util.function.IntSupplier;
+import java.util.function.Consumer;
+import java.util.function.Function;
+import java.util.function.ObjIntConsumer;
 
 /** Counts what a test looks at, prints each answer that is not due, and ends the test with exit code 1 then. */
 final class Check {
+    private static final String NOTHING = "no exception";
+
     private final String test;
     private int looked = 0;
     private int wrong = 0;
@@ -32,16 +36,36 @@ final class Check {
         same(what, "false", String.valueOf(got));
     }
 
-    void noIndex(String what, FlyingDesk desk, Runnable call) {
+    void noIndex(String what, Desk desk, Consumer<Desk> call) {
         refused(what, "IndexOutOfBoundsException", desk, call);
     }
 
-    void noArgument(String what, FlyingDesk desk, Runnable call) {
+    void noArgument(String what, Desk desk, Consumer<Desk> call) {
         refused(what, "IllegalArgumentException", desk, call);
     }
 
-    void noState(String what, FlyingDesk desk, Runnable call) {
+    void noState(String what, Desk desk, Consumer<Desk> call) {
         refused(what, "IllegalStateException", desk, call);
+    }
+
+    /** The call is not refused; the desk itself stays as it is, for another try. */
+    void taken(String what, Desk desk, Consumer<Desk> call) {
+        same(what, NOTHING, thrown(desk.again(), call));
+    }
+
+    /** A call that is not refused, and changes nothing all the same. */
+    void idle(String what, Desk desk, Consumer<Desk> call) {
+        refused(what, NOTHING, desk, call);
+    }
+
+    /** Numbers low .. high are there; those beside them, and those far away, are not. */
+    void indexWithin(String what, Desk desk, int low, int high, ObjIntConsumer<Desk> call) {
+        within(what, "IndexOutOfBoundsException", desk, low, high, call);
+    }
+
+    /** Values low .. high are taken; those beside them, and those far away, are not. */
+    void argumentWithin(String what, Desk desk, int low, int high, ObjIntConsumer<Desk> call) {
+        within(what, "IllegalArgumentException", desk, low, high, call);
     }
 
     void end() {
@@ -51,53 +75,31 @@ final class Check {
         }
     }
 
-    /** What a call answers, or the name of what it throws. */
-    static String answer(IntSupplier call) {
+    private void within(String what, String due, Desk desk, int low, int high, ObjIntConsumer<Desk> call) {
+        for (int value : new int[] {low, high}) {
+            taken(what + " " + value, desk, d -> call.accept(d, value));
+        }
+        for (int value : new int[] {low - 1, high + 1, Integer.MIN_VALUE, Integer.MAX_VALUE}) {
+            refused(what + " " + value, due, desk, d -> call.accept(d, value));
+        }
+    }
+
+    /** Two desks of the same calls, of which one gets this call too, have to be alike in whatever comes then. */
+    private void refused(String what, String due, Desk desk, Consumer<Desk> call) {
+        for (Function<Desk, String> probe : Probe.ALL) {
+            Desk tried = desk.again();
+            same(what, due, thrown(tried, call));
+            same("what comes after " + what, probe.apply(desk.again()), probe.apply(tried));
+        }
+    }
+
+    private static String thrown(Desk desk, Consumer<Desk> call) {
         try {
-            return String.valueOf(call.getAsInt());
+            call.accept(desk);
+            return NOTHING;
         } catch (RuntimeException e) {
             return e.getClass().getSimpleName();
         }
-    }
-
-    /** All that the desk's questions tell; the numbers around the right ones too. */
-    static String look(FlyingDesk desk) {
-        StringBuilder seen = new StringBuilder();
-        for (int hoist = -1; hoist <= 12; hoist++) {
-            for (int what = -1; what <= 6; what++) {
-                seen.append(desk.hoist(hoist, what)).append(' ');
-            }
-        }
-        for (int piece = -1; piece <= 6; piece++) {
-            for (int what = -1; what <= 6; what++) {
-                seen.append(desk.piece(piece, what)).append(' ');
-            }
-            for (int other = -1; other <= 6; other++) {
-                seen.append(desk.meets(piece, other) ? '1' : '0');
-            }
-            seen.append(' ');
-        }
-        for (int cue = -1; cue <= 8; cue++) {
-            for (int what = -1; what <= 3; what++) {
-                seen.append(desk.cue(cue, what)).append(' ');
-            }
-            for (int move = -1; move <= 4; move++) {
-                for (int what = -1; what <= 5; what++) {
-                    seen.append(desk.moveOf(cue, move, what)).append(' ');
-                }
-            }
-        }
-        return seen.append(desk.version()).toString();
-    }
-
-    private void refused(String what, String due, FlyingDesk desk, Runnable call) {
-        String before = look(desk);
-        String got = answer(() -> {
-            call.run();
-            return 0;
-        });
-        same(what, due, got.equals("0") ? "no exception" : got);
-        same("what is seen after " + what, before, look(desk));
     }
 
     private void tell(String text) {

@@ -4,7 +4,6 @@ public final class DriveTest {
     private static final Check check = new Check("DriveTest");
 
     public static void main(String[] args) {
-        refusals();
         cells();
         followsAtMost14();
         lostFrames();
@@ -20,46 +19,29 @@ public final class DriveTest {
     }
 
     /** Piece 0 on hoists 0, 1 and 2, and a cue to a goal that runs. */
-    private static FlyingDesk flying(int goal, int top) {
-        FlyingDesk desk = new FlyingDesk();
+    private static Desk flying(int goal, int top) {
+        Desk desk = new Desk();
         desk.hang(0, 7, 300, 0, 0);
         desk.handle(0, true);
         send(desk, goal, top);
         return desk;
     }
 
-    private static void send(FlyingDesk desk, int goal, int top) {
+    private static void send(Desk desk, int goal, int top) {
         desk.clear(0);
         desk.move(0, 0, goal, top);
         check.same("armed", NONE, desk.arm(0));
         check.same("runs", 1, desk.go(0));
     }
 
-    private static void driveIs(String when, FlyingDesk desk, int hoist, int place, int age, int braking) {
+    private static void driveIs(String when, Desk desk, int hoist, int place, int age, int braking) {
         check.same("place of drive " + hoist + ", " + when, place, desk.hoist(hoist, 0));
         check.same("AGE of drive " + hoist + ", " + when, age, desk.hoist(hoist, 1));
         check.same("BRAKING of drive " + hoist + ", " + when, braking, desk.hoist(hoist, 2));
     }
 
-    private static void refusals() {
-        FlyingDesk desk = new FlyingDesk();
-        for (int hoist : new int[] {-1, 12}) {
-            check.noIndex("cell of " + hoist, desk, () -> desk.cell(hoist, -2));
-            check.noIndex("lose of " + hoist, desk, () -> desk.lose(hoist, -1));
-            check.noIndex("stick of " + hoist, desk, () -> desk.stick(hoist, true));
-        }
-        check.noArgument("cell -2", desk, () -> desk.cell(0, -2));
-        check.noArgument("cell, least", desk, () -> desk.cell(0, Integer.MIN_VALUE));
-        check.noArgument("lose -1", desk, () -> desk.lose(0, -1));
-        check.noArgument("lose 101", desk, () -> desk.lose(0, 101));
-        desk.lose(0, 100);
-        desk.lose(11, 0);
-        desk.cell(11, Integer.MAX_VALUE);
-        check.same("cell, most", Integer.MAX_VALUE, desk.hoist(11, 3));
-    }
-
     private static void cells() {
-        FlyingDesk desk = new FlyingDesk();
+        Desk desk = new Desk();
         check.same("nothing hangs", 0, desk.hoist(4, 3));
         desk.cell(4, 77);
         check.same("told, without a piece", 77, desk.hoist(4, 3));
@@ -77,7 +59,7 @@ public final class DriveTest {
     }
 
     private static void followsAtMost14() {
-        FlyingDesk desk = flying(18, 12);
+        Desk desk = flying(18, 12);
         desk.stick(1, true);
         desk.lose(2, 3);
         desk.tick(5);
@@ -106,7 +88,7 @@ public final class DriveTest {
     }
 
     private static void lostFrames() {
-        FlyingDesk desk = flying(200, 4);
+        Desk desk = flying(200, 4);
         desk.tick(6);
         check.same("the master", 18, desk.piece(0, 1));
         desk.lose(1, 3);
@@ -123,7 +105,7 @@ public final class DriveTest {
     }
 
     private static void loseReplaces() {
-        FlyingDesk desk = flying(200, 1);
+        Desk desk = flying(200, 1);
         desk.lose(0, 9);
         desk.lose(0, 2);
         desk.tick(3);
@@ -136,7 +118,7 @@ public final class DriveTest {
     }
 
     private static void framesAreLostOnlyByPiecesThatHang() {
-        FlyingDesk desk = new FlyingDesk();
+        Desk desk = new Desk();
         desk.lose(5, 2);
         desk.tick(10);
         check.same("no frames come", 0, desk.hoist(5, 1));
@@ -150,8 +132,8 @@ public final class DriveTest {
     }
 
     /** A drive at 78 that is stuck while its master goes on to 102; REASON 2 has stopped the cue there. */
-    private static FlyingDesk leftBehind() {
-        FlyingDesk desk = new FlyingDesk();
+    private static Desk leftBehind() {
+        Desk desk = new Desk();
         desk.hang(0, 1, 300, 0, 0);
         desk.handle(0, true);
         send(desk, 200, 12);
@@ -165,7 +147,7 @@ public final class DriveTest {
     }
 
     /** Lets a stuck drive loose when two frames are lost: it goes on for one tick, and brakes from the next one on. */
-    private static void looseWithOldFrames(FlyingDesk desk, int lost) {
+    private static void looseWithOldFrames(Desk desk, int lost) {
         desk.lose(0, lost);
         desk.tick(2);
         desk.stick(0, false);
@@ -173,7 +155,7 @@ public final class DriveTest {
     }
 
     private static void brakes() {
-        FlyingDesk desk = leftBehind();
+        Desk desk = leftBehind();
         looseWithOldFrames(desk, 100);
         driveIs("an AGE of 3: it follows", desk, 0, 92, 3, 0);
         int[] places = {102, 108, 110, 110, 110};
@@ -192,7 +174,7 @@ public final class DriveTest {
     }
 
     private static void brakesDownToTheFloor() {
-        FlyingDesk desk = new FlyingDesk();
+        Desk desk = new Desk();
         desk.hang(0, 1, 300, 0, 0);
         desk.handle(0, true);
         send(desk, 20, 12);
@@ -212,7 +194,7 @@ public final class DriveTest {
     }
 
     private static void brakesUpToTheTop() {
-        FlyingDesk desk = new FlyingDesk();
+        Desk desk = new Desk();
         desk.hang(0, 1, 300, 0, 0);
         desk.handle(0, true);
         send(desk, 380, 12);
@@ -231,7 +213,7 @@ public final class DriveTest {
 
     /** It is BRAKING until it stands, though frames come before that. */
     private static void framesComeBackWhileBraking() {
-        FlyingDesk desk = leftBehind();
+        Desk desk = leftBehind();
         looseWithOldFrames(desk, 4);
         desk.tick(1);
         driveIs("the last lost one", desk, 0, 102, 4, 1);
@@ -246,7 +228,7 @@ public final class DriveTest {
     }
 
     private static void stuckWhileBraking() {
-        FlyingDesk desk = leftBehind();
+        Desk desk = leftBehind();
         looseWithOldFrames(desk, 7);
         desk.tick(1);
         driveIs("it brakes", desk, 0, 102, 4, 1);
@@ -257,7 +239,7 @@ public final class DriveTest {
         desk.stick(0, false);
         desk.tick(1);
         driveIs("nor after that", desk, 0, 102, 6, 1);
-        FlyingDesk stuck = leftBehind();
+        Desk stuck = leftBehind();
         stuck.lose(0, 4);
         stuck.tick(3);
         driveIs("stuck, AGE 3", stuck, 0, 78, 3, 0);
@@ -268,7 +250,7 @@ public final class DriveTest {
     }
 
     private static void hoistAnswers() {
-        FlyingDesk desk = leftBehind();
+        Desk desk = leftBehind();
         looseWithOldFrames(desk, 50);
         desk.tick(1);
         int[] due = {102, 4, 1, 300, 0, 10, NONE};

@@ -4,46 +4,18 @@ public final class HangingTest {
     private static final Check check = new Check("HangingTest");
 
     public static void main(String[] args) {
-        newDesk();
         hang();
-        hangRefusals();
-        hangOrderOfExceptions();
         hangAgain();
         hangForgetsTheLastFrame();
         unhang();
-        unhangRefusals();
         box();
-        boxRefusals();
         meets();
         pieceAnswers();
         check.end();
     }
 
-    private static void newDesk() {
-        FlyingDesk desk = new FlyingDesk();
-        for (int hoist = 0; hoist < 12; hoist++) {
-            for (int what = 0; what <= 5; what++) {
-                check.same("new hoist(" + hoist + ", " + what + ")", what == 4 ? NONE : 0, desk.hoist(hoist, what));
-            }
-        }
-        for (int piece = 0; piece < 6; piece++) {
-            for (int what = 0; what <= 5; what++) {
-                check.same("new piece(" + piece + ", " + what + ")", 0, desk.piece(piece, what));
-            }
-        }
-        for (int cue = 0; cue < 8; cue++) {
-            for (int what = 0; what <= 2; what++) {
-                check.same("new cue(" + cue + ", " + what + ")", 0, desk.cue(cue, what));
-            }
-            check.same("new moveOf", NONE, desk.moveOf(cue, 0, 0));
-        }
-        check.same("new version", 0, desk.version());
-        check.no("new undo", desk.undo());
-        check.same("a tick with nothing that hangs", 0, desk.tick(3));
-    }
-
     private static void hang() {
-        FlyingDesk desk = new FlyingDesk();
+        Desk desk = new Desk();
         desk.hang(5, 0b1010_0000_0001, 10000, 100, 100);
         check.same("hangs", 1, desk.piece(5, 0));
         check.same("LEARNT is cut", 3333, desk.piece(5, 5));
@@ -61,47 +33,9 @@ public final class HangingTest {
         check.same("no link loses frames at first", 0, desk.hoist(0, 1));
     }
 
-    private static void hangRefusals() {
-        FlyingDesk desk = new FlyingDesk();
-        check.noIndex("piece -1", desk, () -> desk.hang(-1, 1, 1, 0, 0));
-        check.noIndex("piece 6", desk, () -> desk.hang(6, 1, 1, 0, 0));
-        check.noArgument("no hoist", desk, () -> desk.hang(0, 0, 1, 0, 0));
-        check.noArgument("four hoists", desk, () -> desk.hang(0, 15, 1, 0, 0));
-        check.noArgument("hoist 12", desk, () -> desk.hang(0, 1 << 12, 1, 0, 0));
-        check.noArgument("hoists 0 and 12", desk, () -> desk.hang(0, 1 << 12 | 1, 1, 0, 0));
-        check.noArgument("hoist 31", desk, () -> desk.hang(0, 1 << 31, 1, 0, 0));
-        check.noArgument("all bits", desk, () -> desk.hang(0, -1, 1, 0, 0));
-        check.noArgument("weight 0", desk, () -> desk.hang(0, 1, 0, 0, 0));
-        check.noArgument("weight 10001", desk, () -> desk.hang(0, 1, 10001, 0, 0));
-        check.noArgument("x -1", desk, () -> desk.hang(0, 1, 1, -1, 0));
-        check.noArgument("x 101", desk, () -> desk.hang(0, 1, 1, 101, 0));
-        check.noArgument("y -1", desk, () -> desk.hang(0, 1, 1, 0, -1));
-        check.noArgument("y 101", desk, () -> desk.hang(0, 1, 1, 0, 101));
-        desk.hang(0, 7, 30, 10, 10);
-        check.noState("it hangs", desk, () -> desk.hang(0, 8, 30, 50, 50));
-        check.noState("another one's hoist", desk, () -> desk.hang(1, 4 | 8, 30, 50, 50));
-        check.noState("it would meet", desk, () -> desk.hang(1, 8, 30, 10, 10));
-        desk.box(1, 5, 1, 1);
-        check.noState("it would meet with its width", desk, () -> desk.hang(1, 8, 30, 6, 10));
-        desk.hang(1, 8, 30, 5, 10);
-        check.same("beside it", 1, desk.piece(1, 0));
-        desk.box(2, 20, 20, 20);
-        desk.box(3, 1, 1, 1);
-        check.noState("with its own box, not the latest one", desk, () -> desk.hang(2, 16, 30, 0, 0));
-        check.noState("hoist 0", desk, () -> desk.hang(3, 1, 30, 90, 90));
-    }
-
-    private static void hangOrderOfExceptions() {
-        FlyingDesk desk = new FlyingDesk();
-        desk.hang(0, 1, 30, 10, 10);
-        check.noIndex("no piece, no hoists", desk, () -> desk.hang(6, 0, 0, -1, -1));
-        check.noArgument("no hoists, and it hangs", desk, () -> desk.hang(0, 0, 30, 10, 10));
-        check.noArgument("y, and it would meet", desk, () -> desk.hang(1, 1, 30, 10, 101));
-    }
-
     /** A hoist's drive begins anew with a piece; what is told of its link and cell stays. */
     private static void hangAgain() {
-        FlyingDesk desk = new FlyingDesk();
+        Desk desk = new Desk();
         desk.hang(0, 3, 100, 0, 0);
         desk.move(0, 0, 4, 12);
         desk.arm(0);
@@ -151,7 +85,7 @@ public final class HangingTest {
 
     /** A drive that has got no frame yet stays at the floor, whatever an earlier piece's frames said. */
     private static void hangForgetsTheLastFrame() {
-        FlyingDesk desk = new FlyingDesk();
+        Desk desk = new Desk();
         desk.hang(0, 1, 100, 0, 0);
         desk.handle(0, true);
         raise(desk, 0, 3);
@@ -183,7 +117,7 @@ public final class HangingTest {
     }
 
     private static void unhang() {
-        FlyingDesk desk = new FlyingDesk();
+        Desk desk = new Desk();
         desk.hang(2, 1, 50, 20, 20);
         desk.cell(0, 0);
         desk.tick(1);
@@ -200,40 +134,9 @@ public final class HangingTest {
         check.same("the old spot is free", 1, desk.piece(3, 0));
     }
 
-    private static void unhangRefusals() {
-        FlyingDesk desk = new FlyingDesk();
-        check.noIndex("piece -1", desk, () -> desk.unhang(-1));
-        check.noIndex("piece 6", desk, () -> desk.unhang(6));
-        check.noState("it does not hang", desk, () -> desk.unhang(0));
-        desk.hang(0, 1, 50, 0, 0);
-        desk.move(4, 0, 30, 5);
-        desk.arm(4);
-        check.noState("its cue is ARMED", desk, () -> desk.unhang(0));
-        desk.handle(0, true);
-        desk.go(0);
-        check.noState("its cue is RUNNING", desk, () -> desk.unhang(0));
-        desk.handle(0, false);
-        desk.tick(1);
-        check.same("PAUSED", 3, desk.cue(4, 0));
-        check.same("at the floor", 0, desk.piece(0, 1));
-        check.noState("its cue is PAUSED", desk, () -> desk.unhang(0));
-        desk.handle(0, true);
-        desk.go(0);
-        desk.tick(1);
-        desk.halt(0);
-        check.same("one up", 1, desk.piece(0, 1));
-        check.noState("its master is above 0", desk, () -> desk.unhang(0));
-        desk.hang(1, 2, 50, 50, 0);
-        desk.move(5, 1, 30, 5);
-        desk.arm(5);
-        desk.halt(0);
-        desk.unhang(1);
-        check.same("a STOPPED cue does not hold it", 0, desk.piece(1, 0));
-    }
-
     private static void box() {
         boxAtFirst();
-        FlyingDesk desk = new FlyingDesk();
+        Desk desk = new Desk();
         desk.hang(0, 1, 50, 0, 0);
         desk.hang(1, 2, 50, 40, 0);
         desk.box(0, 40, 40, 40);
@@ -242,17 +145,17 @@ public final class HangingTest {
         check.no("one behind the other", desk.meets(0, 2));
         desk.box(0, 1, 1, 1);
         desk.hang(3, 8, 50, 39, 0);
-        check.noState("40 wide would meet piece 3", desk, () -> desk.box(0, 40, 1, 1));
+        check.noState("40 wide would meet piece 3", desk, d -> d.box(0, 40, 1, 1));
         desk.box(0, 39, 1, 1);
         check.no("39 wide does not", desk.meets(0, 3));
         desk.hang(4, 16, 50, 0, 39);
-        check.noState("40 deep would meet piece 4", desk, () -> desk.box(0, 1, 40, 1));
+        check.noState("40 deep would meet piece 4", desk, d -> d.box(0, 1, 40, 1));
         desk.box(0, 1, 39, 1);
         check.no("39 deep does not", desk.meets(0, 4));
     }
 
     private static void boxAtFirst() {
-        FlyingDesk desk = new FlyingDesk();
+        Desk desk = new Desk();
         desk.handle(0, true);
         desk.hang(4, 1, 50, 7, 7);
         raise(desk, 4, 1);
@@ -268,40 +171,8 @@ public final class HangingTest {
         check.same("piece 5 is in the way of piece 4", 45, desk.arm(0));
     }
 
-    private static void boxRefusals() {
-        FlyingDesk desk = new FlyingDesk();
-        check.noIndex("piece -1", desk, () -> desk.box(-1, 0, 0, 0));
-        check.noIndex("piece 6", desk, () -> desk.box(6, 1, 1, 1));
-        for (int bad : new int[] {0, 41}) {
-            check.noArgument("width " + bad, desk, () -> desk.box(0, bad, 1, 1));
-            check.noArgument("depth " + bad, desk, () -> desk.box(0, 1, bad, 1));
-            check.noArgument("height " + bad, desk, () -> desk.box(0, 1, 1, bad));
-        }
-        desk.hang(0, 1, 50, 0, 0);
-        desk.move(0, 0, 20, 1);
-        desk.arm(0);
-        check.noArgument("width, and ARMED", desk, () -> desk.box(3, 0, 1, 1));
-        check.noState("ARMED, though of another piece", desk, () -> desk.box(3, 1, 1, 1));
-        desk.handle(0, true);
-        desk.go(0);
-        check.noState("RUNNING", desk, () -> desk.box(3, 1, 1, 1));
-        desk.handle(0, false);
-        desk.tick(1);
-        check.noState("PAUSED", desk, () -> desk.box(3, 1, 1, 1));
-        desk.handle(0, true);
-        desk.go(0);
-        desk.tick(30);
-        check.same("DONE", 4, desk.cue(0, 0));
-        desk.hang(1, 2, 50, 0, 0);
-        desk.box(0, 1, 1, 20);
-        check.no("20 high above 0", desk.meets(0, 1));
-        check.noState("21 high reaches below 0", desk, () -> desk.box(0, 1, 1, 21));
-        desk.box(1, 1, 1, 40);
-        check.no("a box hangs down from its place", desk.meets(0, 1));
-    }
-
     private static void meets() {
-        FlyingDesk desk = new FlyingDesk();
+        Desk desk = new Desk();
         desk.box(0, 4, 4, 10);
         desk.hang(0, 1, 50, 0, 0);
         desk.handle(0, true);
@@ -333,7 +204,7 @@ public final class HangingTest {
         check.yes("the last piece still does", desk.meets(0, 5));
     }
 
-    private static void raise(FlyingDesk desk, int piece, int place) {
+    private static void raise(Desk desk, int piece, int place) {
         desk.clear(0);
         desk.move(0, piece, place, 12);
         desk.arm(0);
@@ -343,7 +214,7 @@ public final class HangingTest {
     }
 
     /** Whether a cue could meet a piece that is hung later is nobody's question: the two meet, then. */
-    private static void lowerOnto(FlyingDesk desk) {
+    private static void lowerOnto(Desk desk) {
         desk.clear(0);
         desk.move(0, 0, 0, 12);
         desk.arm(0);
@@ -355,7 +226,7 @@ public final class HangingTest {
     }
 
     private static void pieceAnswers() {
-        FlyingDesk desk = new FlyingDesk();
+        Desk desk = new Desk();
         desk.hang(0, 7, 100, 0, 0);
         desk.move(0, 0, 50, 4);
         desk.arm(0);

@@ -1,16 +1,18 @@
 import java.util.Map;
 import java.util.TreeMap;
+import java.util.function.IntPredicate;
 import java.util.function.IntSupplier;
 
-/** Made-up runs of 500 calls, always the same ones, on a desk and on its model: every answer has to be the same. */
+/** Made-up runs of calls, always the same ones, on a desk and on its model: every answer has to be the same. */
 public final class ModelTest {
-    private static final int RUNS = 1200;
-    private static final int CALLS = 500;
+    private static final int RUNS = 8000;
+    /** What a last look at the whole desk may need of the 512 calls that are promised. */
+    private static final int LOOK = 308;
 
     private static final Check check = new Check("ModelTest");
     private static final Map<String, Integer> seen = new TreeMap<>();
 
-    private final FlyingDesk desk = new FlyingDesk();
+    private final Desk desk = new Desk();
     private final DeskModel model = new DeskModel();
     private final int run;
     /** Low goals and small boxes, so that arming can try out every place; else the whole stage. */
@@ -19,6 +21,8 @@ public final class ModelTest {
     private final boolean crowded;
     /** How rarely a link fails or a cell lies: a desk that is always in trouble arms nothing. */
     private final int trouble;
+    /** Little but edits, so that more of them are made than can be undone. */
+    private final boolean planning;
     private long dice;
 
     private ModelTest(int run) {
@@ -26,6 +30,7 @@ public final class ModelTest {
         this.small = run % 2 == 0;
         this.crowded = run % 3 != 0;
         this.trouble = 1 + run % 5 * 4;
+        this.planning = run % 11 == 0;
         this.dice = run * 7919L + 17;
     }
 
@@ -52,11 +57,15 @@ public final class ModelTest {
     }
 
     private void play() {
-        setUp();
-        for (int i = 0; i < CALLS; i++) {
-            call();
-            look();
+        if (!planning) {
+            setUp();
         }
+        int last = luck(3) ? LOOK + roll(512 - LOOK - 50) : LOOK;
+        while (desk.callsLeft() > last) {
+            call();
+            noteState();
+        }
+        look();
     }
 
     private int roll(int sides) {
@@ -94,7 +103,37 @@ public final class ModelTest {
         if (luck(60)) {
             return luck(2) ? -1 : 101;
         }
-        return luck(3) ? roll(101) : roll(30);
+        return crowded ? roll(4) : luck(3) ? roll(101) : roll(30);
+    }
+
+    /** One of which something holds, if there is one; now and then any number. */
+    private int find(int count, IntPredicate holds) {
+        int from = roll(count);
+        int tries = luck(10) ? 0 : count;
+        for (int i = 0; i < tries; i++) {
+            if (holds.test((from + i) % count)) {
+                return (from + i) % count;
+            }
+        }
+        return index(count);
+    }
+
+    /** A cue that can be edited or armed, with so many moves at least. */
+    private int freeCue(int moves) {
+        return find(8, cue -> model.cue(cue, 2) >= moves && !isBusy(cue));
+    }
+
+    private boolean isBusy(int cue) {
+        return model.cue(cue, 0) >= 1 && model.cue(cue, 0) <= 3;
+    }
+
+    private boolean isIn(int cue, int piece) {
+        for (int move = 0; move < 4; move++) {
+            if (model.moveOf(cue, move, 0) == piece) {
+                return true;
+            }
+        }
+        return false;
     }
 
     private int hoists() {
@@ -143,14 +182,14 @@ public final class ModelTest {
     }
 
     private void call() {
-        int kind = roll(100);
-        if (kind < (crowded ? 3 : 8)) {
+        int kind = planning && !luck(8) ? 20 : roll(100);
+        if (kind < 8) {
             callPiece();
         } else if (kind < 38) {
             callPlan();
         } else if (kind < 66) {
             callRun();
-        } else if (kind < 95) {
+        } else if (kind < 92) {
             callTick();
         } else {
             callTrouble();
@@ -158,7 +197,8 @@ public final class ModelTest {
     }
 
     private void callPiece() {
-        int piece = index(6);
+        int kind = roll(3);
+        int piece = kind == 0 ? find(6, p -> model.piece(p, 0) == 0) : index(6);
         int a = size();
         int b = size();
         int c = size();
@@ -166,7 +206,7 @@ public final class ModelTest {
         int y = spot();
         int bits = hoists();
         int weight = weight();
-        switch (roll(3)) {
+        switch (kind) {
             case 0 -> both("hang", () -> done(() -> desk.hang(piece, bits, weight, x, y)),
                 () -> done(() -> model.hang(piece, bits, weight, x, y)));
             case 1 -> both("unhang", () -> done(() -> desk.unhang(piece)), () -> done(() -> model.unhang(piece)));
@@ -175,33 +215,34 @@ public final class ModelTest {
     }
 
     private void callPlan() {
-        int cue = luck(3) ? index(8) : roll(3);
-        int piece = index(6);
+        int kind = roll(24);
+        int cue = luck(6) ? index(8) : kind < 11 ? roll(4) : freeCue(2);
+        int piece = find(6, p -> model.piece(p, 0) == 1 && !isIn(cue, p));
         int place = place();
         int top = luck(30) ? roll(2) * 13 : 1 + roll(12);
-        int move = luck(20) ? index(4) : roll(Math.max(1, model.cue(cue, 2)));
+        int move = luck(20) ? index(4) : 1 + roll(Math.max(1, model.cue(cue, 2) - 1));
         int other = luck(20) ? roll(6) - 2 : luck(4) ? -1 : roll(Math.max(1, move));
         int station = index(3);
-        int kind = roll(24);
         if (kind < 11) {
             both("move", () -> desk.move(cue, piece, place, top), () -> model.move(cue, piece, place, top));
-        } else if (kind < 19) {
+        } else if (kind < 18) {
             both("after", () -> done(() -> desk.after(cue, move, other, place)),
                 () -> done(() -> model.after(cue, move, other, place)));
-        } else if (kind < 21) {
+        } else if (kind < 20) {
             both("station", () -> done(() -> desk.station(cue, station)), () -> done(() -> model.station(cue, station)));
         } else if (kind < 22) {
             both("clear", () -> done(() -> desk.clear(cue)), () -> done(() -> model.clear(cue)));
         } else {
-            for (int i = luck(30) ? 60 : 1; i > 0; i--) {
+            for (int i = luck(planning ? 60 : 30) ? 42 : 1; i > 0 && desk.callsLeft() > LOOK; i--) {
                 both("undo", () -> desk.undo() ? 1 : 0, () -> model.undo() ? 1 : 0);
             }
         }
     }
 
     private void callRun() {
-        int cue = luck(3) ? index(8) : roll(3);
-        int station = index(3);
+        int cue = freeCue(1);
+        int ready = find(8, c -> model.cue(c, 0) == 1 || model.cue(c, 0) == 3);
+        int station = luck(4) ? index(3) : model.cue(ready, 1);
         boolean held = !luck(3);
         int kind = roll(28);
         if (kind < 16) {
@@ -216,13 +257,15 @@ public final class ModelTest {
     }
 
     private void callTick() {
-        int cue = index(8);
-        int piece = index(6);
+        int cue = find(8, c -> model.cue(c, 2) > 0);
+        int piece = find(6, p -> isIn(cue, p));
+        int troubled = find(6, p -> model.piece(p, 3) != 0);
         int n = luck(60) ? roll(2) * 202 - 1 : luck(6) ? roll(60) : roll(5);
         int far = luck(10) ? 390 + roll(20) : roll(60) - 1;
         switch (roll(6)) {
             case 0 -> both("rehearse", () -> desk.rehearse(cue, piece, far), () -> model.rehearse(cue, piece, far));
-            case 1 -> both("clearReason", () -> desk.clearReason(piece) ? 1 : 0, () -> model.clearReason(piece) ? 1 : 0);
+            case 1 -> both("clearReason", () -> desk.clearReason(troubled) ? 1 : 0,
+                () -> model.clearReason(troubled) ? 1 : 0);
             default -> both("tick", () -> desk.tick(n), () -> model.tick(n));
         }
     }
@@ -246,8 +289,8 @@ public final class ModelTest {
     }
 
     private void both(String name, IntSupplier onDesk, IntSupplier onModel) {
-        String due = Check.answer(onModel);
-        check.same("run " + run + ", " + name, due, Check.answer(onDesk));
+        String due = Probe.answer(onModel);
+        check.same("run " + run + ", " + name, due, Probe.answer(onDesk));
         note(name + " " + due);
         if (name.equals("arm") && !due.startsWith("I")) {
             note(due.equals("-1") ? "arm armed" : "arm met");
@@ -261,33 +304,45 @@ public final class ModelTest {
         seen.merge(what, 1, Integer::sum);
     }
 
-    private void look() {
+    /** The model may be asked as often as one likes. */
+    private void noteState() {
         for (int hoist = 0; hoist < 12; hoist++) {
-            for (int what = 0; what <= 5; what++) {
-                same("hoist", hoist, what, model.hoist(hoist, what), desk.hoist(hoist, what));
-            }
             if (model.hoist(hoist, 2) == 1) {
                 note("braking");
             }
         }
         for (int piece = 0; piece < 6; piece++) {
-            for (int what = 0; what <= 5; what++) {
-                same("piece", piece, what, model.piece(piece, what), desk.piece(piece, what));
-            }
             note("reason " + model.piece(piece, 3));
-            for (int other = 0; other < 6; other++) {
-                same("meets", piece, other, model.meets(piece, other) ? 1 : 0, desk.meets(piece, other) ? 1 : 0);
+            for (int other = 0; other < piece; other++) {
                 if (model.meets(piece, other)) {
                     note("meeting");
                 }
             }
         }
         for (int cue = 0; cue < 8; cue++) {
+            note("state " + model.cue(cue, 0));
+        }
+    }
+
+    private void look() {
+        for (int hoist = 0; hoist < 12; hoist++) {
+            for (int what = 0; what <= 5; what++) {
+                same("hoist", hoist, what, model.hoist(hoist, what), desk.hoist(hoist, what));
+            }
+        }
+        for (int piece = 0; piece < 6; piece++) {
+            for (int what = 0; what <= 5; what++) {
+                same("piece", piece, what, model.piece(piece, what), desk.piece(piece, what));
+            }
+            for (int other = 0; other < piece; other++) {
+                same("meets", piece, other, model.meets(piece, other) ? 1 : 0, desk.meets(piece, other) ? 1 : 0);
+            }
+        }
+        for (int cue = 0; cue < 8; cue++) {
             for (int what = 0; what <= 2; what++) {
                 same("cue", cue, what, model.cue(cue, what), desk.cue(cue, what));
             }
-            note("state " + model.cue(cue, 0));
-            for (int at = 0; at < 20; at++) {
+            for (int at = 0; at < 5 * model.cue(cue, 2); at++) {
                 same("move", cue, at, model.moveOf(cue, at / 5, at % 5), desk.moveOf(cue, at / 5, at % 5));
             }
         }

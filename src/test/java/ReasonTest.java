@@ -12,7 +12,6 @@ public final class ReasonTest {
         theOldOneStays();
         stopsItsCue();
         stopsWhatIsArmedOrPaused();
-        clearRefusals();
         clearMovesTheMaster();
         clearKeepsAReasonThatHolds();
         clearWhileBraking();
@@ -21,8 +20,8 @@ public final class ReasonTest {
     }
 
     /** Piece 0 on some hoists; its cue 0 to a goal runs. */
-    private static FlyingDesk flying(int hoists, int weight, int goal) {
-        FlyingDesk desk = new FlyingDesk();
+    private static Desk flying(int hoists, int weight, int goal) {
+        Desk desk = new Desk();
         desk.hang(0, hoists, weight, 0, 0);
         desk.handle(0, true);
         desk.move(0, 0, goal, 12);
@@ -32,7 +31,7 @@ public final class ReasonTest {
     }
 
     private static void oldFrames() {
-        FlyingDesk desk = new FlyingDesk();
+        Desk desk = new Desk();
         desk.hang(3, 1 | 2048, 100, 0, 0);
         desk.lose(11, 4);
         desk.tick(3);
@@ -46,16 +45,16 @@ public final class ReasonTest {
     }
 
     private static void farFromTheMaster() {
-        FlyingDesk near = flying(1, 100, 20);
+        Desk near = flying(1, 100, 20);
         near.stick(0, true);
         near.tick(50);
         check.same("20 units", 0, near.piece(0, 3));
         check.same("DONE", 4, near.cue(0, 0));
-        FlyingDesk far = flying(1, 100, 21);
+        Desk far = flying(1, 100, 21);
         far.stick(0, true);
         far.tick(50);
         check.same("21 units", 2, far.piece(0, 3));
-        FlyingDesk above = flying(1, 100, 21);
+        Desk above = flying(1, 100, 21);
         above.tick(50);
         above.stick(0, true);
         above.clear(0);
@@ -72,12 +71,12 @@ public final class ReasonTest {
     }
 
     private static void farApart() {
-        FlyingDesk near = flying(3, 100, 15);
+        Desk near = flying(3, 100, 15);
         near.stick(1, true);
         near.tick(50);
         check.same("15 apart", 15, near.piece(0, 4));
         check.same("no reason", 0, near.piece(0, 3));
-        FlyingDesk far = flying(7, 100, 16);
+        Desk far = flying(7, 100, 16);
         far.stick(1, true);
         far.tick(50);
         check.same("16 apart", 3, far.piece(0, 3));
@@ -90,7 +89,7 @@ public final class ReasonTest {
             {1, 0, 0}, {1, 1, 4}, {10000, Integer.MAX_VALUE, 4}, {10000, 1 << 30, 4},
         };
         for (int[] one : cases) {
-            FlyingDesk desk = new FlyingDesk();
+            Desk desk = new Desk();
             desk.hang(0, 3, one[0], 0, 0);
             desk.cell(1, one[1]);
             check.same("no tick yet", 0, desk.piece(0, 3));
@@ -100,14 +99,14 @@ public final class ReasonTest {
     }
 
     private static void theFirstOneThatHolds() {
-        FlyingDesk one = new FlyingDesk();
+        Desk one = new Desk();
         one.hang(0, 3, 100, 0, 0);
         one.lose(0, 9);
         one.tick(3);
         one.cell(1, 0);
         one.tick(1);
         check.same("1 before 4", 1, one.piece(0, 3));
-        FlyingDesk two = flying(3, 100, 300);
+        Desk two = flying(3, 100, 300);
         two.tick(12);
         two.stick(0, true);
         two.tick(1);
@@ -116,7 +115,7 @@ public final class ReasonTest {
         two.tick(1);
         check.same("24 apart", 24, two.piece(0, 4));
         check.same("2 before 3 and 4", 2, two.piece(0, 3));
-        FlyingDesk oneOrTwo = flying(1, 100, 300);
+        Desk oneOrTwo = flying(1, 100, 300);
         oneOrTwo.tick(11);
         oneOrTwo.lose(0, 20);
         oneOrTwo.handle(0, false);
@@ -125,7 +124,7 @@ public final class ReasonTest {
         oneOrTwo.tick(1);
         check.same("19 away", 19, oneOrTwo.piece(0, 1) - oneOrTwo.hoist(0, 0));
         check.same("no reason", 0, oneOrTwo.piece(0, 3));
-        FlyingDesk three = flying(3, 100, 16);
+        Desk three = flying(3, 100, 16);
         three.stick(0, true);
         three.tick(6);
         check.same("15 apart", 15, three.piece(0, 4));
@@ -138,7 +137,7 @@ public final class ReasonTest {
 
     /** Slow enough for 20 units after three lost frames, and more than 20 after the fourth. */
     private static void oneBeforeTwo() {
-        FlyingDesk desk = new FlyingDesk();
+        Desk desk = new Desk();
         desk.hang(0, 1, 100, 0, 0);
         desk.handle(0, true);
         desk.move(0, 0, 300, 6);
@@ -155,7 +154,7 @@ public final class ReasonTest {
     }
 
     private static void theOldOneStays() {
-        FlyingDesk desk = new FlyingDesk();
+        Desk desk = new Desk();
         desk.hang(0, 1, 100, 0, 0);
         desk.cell(0, 0);
         desk.tick(1);
@@ -166,7 +165,7 @@ public final class ReasonTest {
     }
 
     private static void stopsItsCue() {
-        FlyingDesk desk = new FlyingDesk();
+        Desk desk = new Desk();
         desk.handle(0, true);
         for (int piece = 0; piece < 4; piece++) {
             desk.hang(piece, 1 << piece, 100, 10 * piece, 0);
@@ -199,7 +198,7 @@ public final class ReasonTest {
     }
 
     private static void stopsWhatIsArmedOrPaused() {
-        FlyingDesk armed = new FlyingDesk();
+        Desk armed = new Desk();
         armed.hang(0, 1, 100, 0, 0);
         armed.move(0, 0, 9, 9);
         armed.move(1, 0, 8, 8);
@@ -208,7 +207,7 @@ public final class ReasonTest {
         armed.tick(1);
         check.same("ARMED", 5, armed.cue(0, 0));
         check.same("an IDLE one of the piece", 0, armed.cue(1, 0));
-        FlyingDesk paused = flying(1, 100, 50);
+        Desk paused = flying(1, 100, 50);
         paused.handle(0, false);
         paused.tick(1);
         check.same("PAUSED", 3, paused.cue(0, 0));
@@ -217,17 +216,8 @@ public final class ReasonTest {
         check.same("STOPPED", 5, paused.cue(0, 0));
     }
 
-    private static void clearRefusals() {
-        FlyingDesk desk = new FlyingDesk();
-        check.noIndex("piece -1", desk, () -> desk.clearReason(-1));
-        check.noIndex("piece 6", desk, () -> desk.clearReason(6));
-        check.no("it does not hang", desk.clearReason(0));
-        desk.hang(0, 1, 100, 0, 0);
-        check.no("it has none", desk.clearReason(0));
-    }
-
     private static void clearMovesTheMaster() {
-        FlyingDesk desk = flying(7, 100, 300);
+        Desk desk = flying(7, 100, 300);
         desk.tick(12);
         desk.stick(0, true);
         desk.stick(1, true);
@@ -249,7 +239,7 @@ public final class ReasonTest {
     }
 
     private static void clearKeepsAReasonThatHolds() {
-        FlyingDesk apart = flying(3, 100, 16);
+        Desk apart = flying(3, 100, 16);
         apart.stick(1, true);
         apart.tick(50);
         check.no("16 apart", apart.clearReason(0));
@@ -260,14 +250,14 @@ public final class ReasonTest {
         check.same("2 apart", 2, apart.piece(0, 4));
         check.yes("cleared", apart.clearReason(0));
         check.same("at the lowest", 14, apart.piece(0, 1));
-        FlyingDesk load = new FlyingDesk();
+        Desk load = new Desk();
         load.hang(0, 3, 100, 0, 0);
         load.cell(1, 24);
         load.tick(1);
         check.no("the load is wrong", load.clearReason(0));
         load.cell(1, 25);
         check.yes("the load is right", load.clearReason(0));
-        FlyingDesk other = flying(3, 100, 16);
+        Desk other = flying(3, 100, 16);
         other.stick(1, true);
         other.tick(50);
         other.stick(1, false);
@@ -278,7 +268,7 @@ public final class ReasonTest {
     }
 
     private static void clearWhileBraking() {
-        FlyingDesk desk = new FlyingDesk();
+        Desk desk = new Desk();
         desk.hang(0, 1, 100, 0, 0);
         desk.lose(0, 5);
         desk.tick(5);
@@ -287,7 +277,7 @@ public final class ReasonTest {
         desk.tick(1);
         check.same("a frame", 0, desk.hoist(0, 1));
         check.yes("not BRAKING", desk.clearReason(0));
-        FlyingDesk moving = flying(1, 100, 200);
+        Desk moving = flying(1, 100, 200);
         moving.tick(12);
         moving.stick(0, true);
         moving.tick(2);
@@ -305,7 +295,7 @@ public final class ReasonTest {
 
     /** The drives of a cleared piece come to its master, which is where the lowest of them was. */
     private static void clearedPiecesFollowNewFrames() {
-        FlyingDesk desk = flying(3, 100, 16);
+        Desk desk = flying(3, 100, 16);
         desk.stick(1, true);
         desk.tick(50);
         desk.stick(1, false);

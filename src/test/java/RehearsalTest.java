@@ -4,7 +4,6 @@ public final class RehearsalTest {
     private static final Check check = new Check("RehearsalTest");
 
     public static void main(String[] args) {
-        none();
         asARealRun();
         waits();
         beginsNow();
@@ -13,40 +12,16 @@ public final class RehearsalTest {
         check.end();
     }
 
-    private static FlyingDesk desk() {
-        FlyingDesk desk = new FlyingDesk();
+    private static Desk desk() {
+        Desk desk = new Desk();
         for (int piece = 0; piece < 4; piece++) {
             desk.hang(piece, 1 << piece, 100, 10 * piece, 0);
         }
         return desk;
     }
 
-    private static void none() {
-        FlyingDesk desk = desk();
-        desk.move(0, 0, 50, 5);
-        check.same("no ticks", 0, desk.rehearse(0, 0, 0));
-        check.same("400 ticks", 50, desk.rehearse(0, 0, 400));
-        check.same("n -1", NONE, desk.rehearse(0, 0, -1));
-        check.same("n 401", NONE, desk.rehearse(0, 0, 401));
-        check.same("cue -1", NONE, desk.rehearse(-1, 0, 1));
-        check.same("cue 8", NONE, desk.rehearse(8, 0, 1));
-        check.same("no move of it", NONE, desk.rehearse(0, 1, 1));
-        check.same("a cue without moves", NONE, desk.rehearse(1, 0, 1));
-        check.same("piece -1", NONE, desk.rehearse(0, -1, 1));
-        check.same("piece 6", NONE, desk.rehearse(0, 6, 1));
-        desk.move(7, 5, 50, 5);
-        desk.move(7, 1, 50, 5);
-        check.same("the first of its pieces does not hang", NONE, desk.rehearse(7, 1, 1));
-        desk.hang(5, 32, 100, 90, 90);
-        check.same("cue 7", 1, desk.rehearse(7, 5, 1));
-        desk.unhang(5);
-        desk.move(0, 5, 50, 5);
-        check.same("another of its pieces does not hang", NONE, desk.rehearse(0, 0, 1));
-        check.same("the piece does not hang", NONE, desk.rehearse(0, 5, 1));
-    }
-
     private static void asARealRun() {
-        FlyingDesk desk = desk();
+        Desk desk = desk();
         desk.move(0, 0, 157, 12);
         desk.move(0, 1, 90, 7);
         desk.move(0, 2, 40, 3);
@@ -71,7 +46,7 @@ public final class RehearsalTest {
     }
 
     private static void waits() {
-        FlyingDesk desk = desk();
+        Desk desk = desk();
         desk.move(0, 0, 40, 5);
         desk.move(0, 1, 30, 12);
         desk.after(0, 1, 0, 10);
@@ -84,7 +59,7 @@ public final class RehearsalTest {
     }
 
     private static void beginsNow() {
-        FlyingDesk desk = desk();
+        Desk desk = desk();
         desk.move(0, 0, 40, 12);
         desk.move(0, 1, 40, 12);
         desk.after(0, 1, 0, 20);
@@ -106,7 +81,7 @@ public final class RehearsalTest {
 
     /** Neither handles, nor a REASON, nor another cue that is busy with the piece bears on it. */
     private static void whateverTheDeskDoes() {
-        FlyingDesk desk = desk();
+        Desk desk = desk();
         desk.move(0, 0, 40, 12);
         desk.move(1, 0, 30, 12);
         desk.arm(0);
@@ -122,7 +97,7 @@ public final class RehearsalTest {
     }
 
     private static void changesNothing() {
-        FlyingDesk desk = desk();
+        Desk desk = desk();
         desk.move(0, 0, 40, 12);
         desk.move(0, 1, 40, 12);
         desk.after(0, 1, 0, 3);
@@ -131,10 +106,10 @@ public final class RehearsalTest {
         desk.handle(0, true);
         desk.go(0);
         desk.tick(2);
-        String before = Check.look(desk);
+        String before = desk.look();
         check.same("the other way", 0, desk.rehearse(1, 0, 100));
         check.same("on", 40, desk.rehearse(0, 1, 100));
-        check.same("what is seen", before, Check.look(desk));
+        check.same("what is seen", before, desk.look());
         desk.tick(1);
         check.same("goes on as before", 6, desk.piece(0, 1));
         check.same("and its follower", 3, desk.piece(1, 1));

@@ -4,11 +4,9 @@ public final class RunningTest {
     private static final Check check = new Check("RunningTest");
 
     public static void main(String[] args) {
-        refusals();
         goOnItsStationOnly();
         speeds();
         topSpeed();
-        shortWays();
         downwards();
         releasedHandle();
         heldAgainWhileSlowing();
@@ -23,51 +21,28 @@ public final class RunningTest {
         check.end();
     }
 
-    private static FlyingDesk deskWith(int pieces) {
-        FlyingDesk desk = new FlyingDesk();
+    private static Desk deskWith(int pieces) {
+        Desk desk = new Desk();
         for (int piece = 0; piece < pieces; piece++) {
             desk.hang(piece, 1 << piece, 100, 10 * piece, 0);
         }
         return desk;
     }
 
-    private static void start(FlyingDesk desk, int cue) {
+    private static void start(Desk desk, int cue) {
         check.same("armed", NONE, desk.arm(cue));
         desk.handle(desk.cue(cue, 1), true);
         desk.go(desk.cue(cue, 1));
         check.same("RUNNING", 2, desk.cue(cue, 0));
     }
 
-    private static void masterIs(String when, FlyingDesk desk, int piece, int place, int speed) {
+    private static void masterIs(String when, Desk desk, int piece, int place, int speed) {
         check.same("place of " + piece + ", " + when, place, desk.piece(piece, 1));
         check.same("speed of " + piece + ", " + when, speed, desk.piece(piece, 2));
     }
 
-    private static void refusals() {
-        FlyingDesk desk = deskWith(1);
-        desk.move(0, 0, 30, 2);
-        desk.arm(0);
-        check.noIndex("handle -1", desk, () -> desk.handle(-1, true));
-        check.noIndex("handle 3", desk, () -> desk.handle(3, true));
-        check.noIndex("go -1", desk, () -> desk.go(-1));
-        check.noIndex("go 3", desk, () -> desk.go(3));
-        check.noIndex("halt -1", desk, () -> desk.halt(-1));
-        check.noIndex("halt 3", desk, () -> desk.halt(3));
-        check.noArgument("tick -1", desk, () -> desk.tick(-1));
-        check.noArgument("tick 201", desk, () -> desk.tick(201));
-        for (int station = 0; station < 3; station++) {
-            int which = station;
-            check.noState("no handle is held at first", desk, () -> desk.go(which));
-        }
-        desk.handle(0, true);
-        desk.handle(0, false);
-        check.noState("let go", desk, () -> desk.go(0));
-        desk.handle(1, true);
-        check.noState("another station's is held", desk, () -> desk.go(0));
-    }
-
     private static void goOnItsStationOnly() {
-        FlyingDesk desk = deskWith(5);
+        Desk desk = deskWith(5);
         for (int cue = 0; cue < 5; cue++) {
             desk.move(cue, cue, 30, 2);
             desk.station(cue, cue == 3 ? 2 : 1);
@@ -96,7 +71,7 @@ public final class RunningTest {
     }
 
     private static void speeds() {
-        FlyingDesk desk = deskWith(1);
+        Desk desk = deskWith(1);
         desk.move(0, 0, 20, 12);
         start(desk, 0);
         int[] places = {1, 3, 6, 10, 14, 17, 19};
@@ -112,7 +87,7 @@ public final class RunningTest {
     }
 
     private static void topSpeed() {
-        FlyingDesk desk = deskWith(1);
+        Desk desk = deskWith(1);
         desk.move(0, 0, 400, 12);
         start(desk, 0);
         desk.tick(12);
@@ -128,24 +103,8 @@ public final class RunningTest {
         masterIs("top 1", desk, 0, 396, 1);
     }
 
-    private static void shortWays() {
-        for (int goal = 0; goal <= 3; goal++) {
-            FlyingDesk desk = deskWith(1);
-            desk.move(0, 0, goal, 12);
-            start(desk, 0);
-            int ticks = 0;
-            while (ticks < 10 && desk.cue(0, 0) == 2) {
-                desk.tick(1);
-                ticks++;
-            }
-            int[] due = {1, 1, 2, 3};
-            check.same("ticks to " + goal, due[goal], ticks);
-            check.same("its place", goal, desk.piece(0, 1));
-        }
-    }
-
     private static void downwards() {
-        FlyingDesk desk = deskWith(1);
+        Desk desk = deskWith(1);
         desk.move(0, 0, 30, 12);
         start(desk, 0);
         desk.tick(60);
@@ -161,7 +120,7 @@ public final class RunningTest {
     }
 
     private static void releasedHandle() {
-        FlyingDesk desk = deskWith(1);
+        Desk desk = deskWith(1);
         desk.move(0, 0, 100, 12);
         start(desk, 0);
         desk.tick(4);
@@ -184,7 +143,7 @@ public final class RunningTest {
     }
 
     private static void heldAgainWhileSlowing() {
-        FlyingDesk desk = deskWith(1);
+        Desk desk = deskWith(1);
         desk.move(0, 0, 100, 12);
         start(desk, 0);
         desk.tick(4);
@@ -202,7 +161,7 @@ public final class RunningTest {
     }
 
     private static void pausedOnlyWhenAllStand() {
-        FlyingDesk desk = deskWith(2);
+        Desk desk = deskWith(2);
         desk.move(0, 0, 100, 2);
         desk.move(0, 1, 100, 6);
         start(desk, 0);
@@ -216,7 +175,7 @@ public final class RunningTest {
         desk.tick(1);
         check.same("all stand: PAUSED", 3, desk.cue(0, 0));
         // One at its goal and the other let go just before its own: DONE comes before PAUSED.
-        FlyingDesk other = deskWith(1);
+        Desk other = deskWith(1);
         other.move(0, 0, 3, 12);
         start(other, 0);
         other.tick(1);
@@ -224,7 +183,7 @@ public final class RunningTest {
         other.handle(0, false);
         other.tick(1);
         check.same("not there: PAUSED", 3, other.cue(0, 0));
-        FlyingDesk there = deskWith(1);
+        Desk there = deskWith(1);
         there.move(0, 0, 4, 12);
         start(there, 0);
         there.tick(2);
@@ -236,7 +195,7 @@ public final class RunningTest {
     }
 
     private static void waiting() {
-        FlyingDesk desk = deskWith(3);
+        Desk desk = deskWith(3);
         desk.move(0, 0, 40, 12);
         desk.move(0, 1, 40, 12);
         desk.move(0, 2, 5, 12);
@@ -257,7 +216,7 @@ public final class RunningTest {
     }
 
     private static void waitingForAPlaceBelow() {
-        FlyingDesk desk = deskWith(2);
+        Desk desk = deskWith(2);
         desk.move(0, 0, 30, 12);
         start(desk, 0);
         desk.tick(60);
@@ -276,7 +235,7 @@ public final class RunningTest {
 
     /** A leader that is armed above its goal has to come down; one armed at its goal counts as going up. */
     private static void reachedIsToldByWhereItBegan() {
-        FlyingDesk desk = deskWith(2);
+        Desk desk = deskWith(2);
         desk.move(0, 0, 10, 12);
         start(desk, 0);
         desk.tick(30);
@@ -303,7 +262,7 @@ public final class RunningTest {
     }
 
     private static void doneWhenAllAreThere() {
-        FlyingDesk desk = deskWith(2);
+        Desk desk = deskWith(2);
         desk.move(0, 0, 1, 12);
         desk.move(0, 1, 2, 12);
         start(desk, 0);
@@ -317,7 +276,7 @@ public final class RunningTest {
     }
 
     private static void halt() {
-        FlyingDesk desk = deskWith(5);
+        Desk desk = deskWith(5);
         for (int cue = 0; cue < 5; cue++) {
             desk.move(cue, cue, 50, 6);
         }
@@ -354,7 +313,7 @@ public final class RunningTest {
     }
 
     private static void haltOfPaused() {
-        FlyingDesk desk = deskWith(1);
+        Desk desk = deskWith(1);
         desk.move(0, 0, 50, 6);
         start(desk, 0);
         desk.handle(0, false);
@@ -365,7 +324,7 @@ public final class RunningTest {
     }
 
     private static void handlesOfOtherStations() {
-        FlyingDesk desk = deskWith(2);
+        Desk desk = deskWith(2);
         desk.move(0, 0, 50, 6);
         desk.move(1, 1, 50, 6);
         desk.station(1, 2);
@@ -381,7 +340,7 @@ public final class RunningTest {
     }
 
     private static void ticksCount() {
-        FlyingDesk desk = new FlyingDesk();
+        Desk desk = new Desk();
         desk.hang(0, 3, 100, 0, 0);
         desk.hang(1, 4 | 8 | 16, 100, 20, 0);
         check.same("nothing goes", 0, desk.tick(3));
