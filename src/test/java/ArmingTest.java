@@ -1,4 +1,4 @@
-/** Promise 10: which cues are armed, which are refused, and which two pieces could meet. */
+/** Promise 10: which cues are armed, and which two pieces could meet on the way. */
 public final class ArmingTest {
     private static final int NONE = FlyingDesk.NONE;
     private static final Check check = new Check("ArmingTest");

@@ -161,6 +161,9 @@ public final class EdgesOfAnswersTest {
         one.hang(0, 1, 100, 0, 0);
         Desks.fly(one, 0, 7);
         check.same("one drive", 0, one.piece(0, 4));
+        one.stick(0, true);
+        Desks.fly(one, 0, 20);
+        check.same("one drive, wherever its master is", 0, one.piece(0, 4));
         for (int stuck = 0; stuck < 3; stuck++) {
             Desk desk = new Desk();
             desk.hang(0, 0b10_0101, 100, 0, 0);

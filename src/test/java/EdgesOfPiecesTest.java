@@ -23,6 +23,7 @@ public final class EdgesOfPiecesTest {
         unhangAboveTheFloor();
         unhangWhatACueMoves();
         unhangForgetsTheReason();
+        unhangKeepsTheBox();
         boxNumbers();
         boxWhileACueIsBusy();
         boxThatWouldMeet();
@@ -365,6 +366,23 @@ public final class EdgesOfPiecesTest {
         check.same("none, when it hangs again", 0, desk.piece(0, 3));
         desk.move(0, 0, 5, 5);
         check.same("and it is armed", NONE, desk.arm(0));
+    }
+
+    /** A piece keeps its box when it does not hang: only box() tells another one. */
+    private static void unhangKeepsTheBox() {
+        Desk desk = new Desk();
+        desk.box(0, 7, 9, 11);
+        desk.hang(0, 1, 100, 0, 0);
+        desk.unhang(0);
+        desk.hang(0, 2, 100, 20, 20);
+        check.noState("7 wide", desk, d -> d.hang(1, 1, 100, 26, 20));
+        check.taken("and no wider", desk, d -> d.hang(1, 1, 100, 27, 20));
+        check.noState("9 deep", desk, d -> d.hang(1, 1, 100, 20, 28));
+        check.taken("and no deeper", desk, d -> d.hang(1, 1, 100, 20, 29));
+        Desks.fly(desk, 0, 11);
+        check.taken("11 high at 11", desk, d -> d.hang(1, 1, 100, 20, 20));
+        Desks.fly(desk, 0, 10);
+        check.noState("11 high at 10", desk, d -> d.hang(1, 1, 100, 20, 20));
     }
 
     private static void boxNumbers() {

@@ -15,6 +15,8 @@ public final class EdgesOfRunsTest {
         armTellsEachPair();
         armUpToTheGoal();
         armFromThePlace();
+        armBesideACueInEachState();
+        armBesideAFollower();
         armThatMeetsChangesNothing();
         armLooksAtThoseThatHang();
         armWhatIsBeside();
@@ -40,6 +42,7 @@ public final class EdgesOfRunsTest {
         doneBeforePaused();
         reachedAtThePlace();
         reachedByOneThatStays();
+        reachedAsItWasArmed();
         check.end();
     }
 
@@ -217,6 +220,55 @@ public final class EdgesOfRunsTest {
         desk.clear(5);
         desk.move(5, 1, 42, 12);
         check.same("into it", 1, desk.again().arm(5));
+    }
+
+    /** "or of another cue that is ARMED, RUNNING or PAUSED": the other states' moves move nothing. */
+    private static void armBesideACueInEachState() {
+        for (int state = 0; state <= 5; state++) {
+            Desk desk = tower(0, 1);
+            desk.move(4, 0, 20, 12);
+            if (state != Desks.IDLE) {
+                desk.arm(4);
+                bring(desk, state);
+            }
+            check.same("the other cue", state, desk.cue(4, 0));
+            if (state == Desks.DONE) {
+                Desks.fly(desk, 0, 50);
+            }
+            desk.move(5, 1, 30, 12);
+            boolean busy = state == Desks.ARMED || state == Desks.RUNNING || state == Desks.PAUSED;
+            check.same("beside one that is " + Desks.STATES[state], busy ? 1 : NONE, desk.arm(5));
+        }
+    }
+
+    /** Brings cue 4, which is ARMED, into a later state; handle 0 is held before that. */
+    private static void bring(Desk desk, int state) {
+        if (state == Desks.STOPPED) {
+            desk.halt(0);
+        } else if (state > Desks.ARMED) {
+            desk.go(0);
+            desk.tick(state == Desks.DONE ? 60 : 1);
+            if (state == Desks.PAUSED) {
+                desk.handle(0, false);
+                desk.tick(1);
+            }
+        }
+    }
+
+    /** Another cue's follower, too, is "only where it is", as long as its leader has not come to its place. */
+    private static void armBesideAFollower() {
+        Desk desk = tower(0, 1);
+        desk.hang(2, 4, 100, 90, 90);
+        desk.move(4, 2, 60, 12);
+        desk.move(4, 0, 20, 12);
+        desk.move(5, 1, 40, 12);
+        int[] places = {0, 1, 60, 61, 400};
+        for (int place : places) {
+            Desk other = desk.again();
+            other.after(4, 1, 0, place);
+            check.same("the other cue", NONE, other.arm(4));
+            check.same("its follower goes after " + place, place <= 60 ? 1 : NONE, other.arm(5));
+        }
     }
 
     private static void armThatMeetsChangesNothing() {
@@ -651,5 +703,30 @@ public final class EdgesOfRunsTest {
             desk.tick(9);
             check.same("and later", one[2], desk.piece(1, 1));
         }
+    }
+
+    /** "where its master was when the cue was armed": neither when it goes on after a pause, nor where it is. */
+    private static void reachedAsItWasArmed() {
+        Desk desk = Desks.row();
+        Desks.fly(desk, 0, 50);
+        desk.move(0, 0, 42, 12);
+        desk.move(0, 1, 50, 12);
+        desk.after(0, 1, 0, 41);
+        desk.arm(0);
+        desk.go(0);
+        desk.tick(20);
+        check.same("the leader is at its goal", 42, desk.piece(0, 1));
+        desk.handle(0, false);
+        desk.tick(1);
+        check.same("PAUSED", Desks.PAUSED, desk.cue(0, 0));
+        desk.handle(0, true);
+        check.same("it goes on", 1, desk.go(0));
+        desk.tick(5);
+        check.same("42 is above 41 for one that came down", 0, desk.piece(1, 1));
+        desk.halt(0);
+        check.same("armed where it is, it does not come down", NONE, desk.arm(0));
+        desk.go(0);
+        desk.tick(2);
+        check.same("so that 42 has reached 41", 3, desk.piece(1, 1));
     }
 }

@@ -1,4 +1,4 @@
-/** Promises 1 to 4, 20 and 23: a new desk, pieces that hang, their boxes, what is told of them, and who meets whom. */
+/** Promises 2 to 4, 20 and 23: pieces that hang, their boxes, what is told of them, and who meets whom. */
 public final class HangingTest {
     private static final int NONE = FlyingDesk.NONE;
     private static final Check check = new Check("HangingTest");

@@ -9,6 +9,7 @@ public final class ModelTest {
     /** What a last look at the whole desk may need of the 512 calls that are promised. */
     private static final int LOOK = 308;
 
+    private static final int NONE = FlyingDesk.NONE;
     private static final Check check = new Check("ModelTest");
     private static final Map<String, Integer> seen = new TreeMap<>();
 
@@ -23,14 +24,17 @@ public final class ModelTest {
     private final int trouble;
     /** Little but edits, so that more of them are made than can be undone. */
     private final boolean planning;
+    /** Nothing but cues whose moves wait for one another, armed beside what other cues do. */
+    private final boolean waiting;
     private long dice;
 
     private ModelTest(int run) {
         this.run = run;
-        this.small = run % 2 == 0;
-        this.crowded = run % 3 != 0;
+        this.small = run % 2 == 0 || run % 8 == 1;
+        this.waiting = run % 4 == 1;
+        this.crowded = run % 3 != 0 || waiting;
         this.trouble = 1 + run % 5 * 4;
-        this.planning = run % 11 == 0;
+        this.planning = run % 11 == 0 && !waiting;
         this.dice = run * 7919L + 17;
     }
 
@@ -62,7 +66,13 @@ public final class ModelTest {
         }
         int last = luck(3) ? LOOK + roll(512 - LOOK - 50) : LOOK;
         while (desk.callsLeft() > last) {
-            call();
+            if (!waiting) {
+                call();
+            } else if (desk.callsLeft() > LOOK + 15) {
+                armMovesThatWait();
+            } else {
+                callTick();
+            }
             noteState();
         }
         look();
@@ -236,6 +246,37 @@ public final class ModelTest {
             for (int i = luck(planning ? 60 : 30) ? 42 : 1; i > 0 && desk.callsLeft() > LOOK; i--) {
                 both("undo", () -> desk.undo() ? 1 : 0, () -> model.undo() ? 1 : 0);
             }
+        }
+    }
+
+    /** At most 13 calls: a new plan for a cue that goes up and down a tower, then what comes of it. */
+    private void armMovesThatWait() {
+        int cue = roll(2);
+        both("clear", () -> done(() -> desk.clear(cue)), () -> done(() -> model.clear(cue)));
+        int first = roll(6);
+        int moves = 2 + roll(3);
+        for (int i = 0; i < moves; i++) {
+            int piece = (first + i * (luck(2) ? 1 : 5)) % 6;
+            int goal = Math.max(0, model.piece(piece, 1) + roll(small ? 17 : 81) - (small ? 8 : 40));
+            both("move", () -> desk.move(cue, piece, goal, 12), () -> model.move(cue, piece, goal, 12));
+        }
+        for (int i = 1; i < moves; i++) {
+            int move = i;
+            int other = luck(5) ? NONE : roll(i);
+            int leader = model.moveOf(cue, other, 0);
+            int goal = model.moveOf(cue, other, 1);
+            int way = goal - model.piece(leader, 1);
+            int place = Math.max(0, goal - (way == 0 ? 0 : Integer.signum(way) * (roll(Math.abs(way) + 2) - 1)));
+            both("after", () -> done(() -> desk.after(cue, move, other, place)),
+                () -> done(() -> model.after(cue, move, other, place)));
+        }
+        both("arm", () -> desk.arm(cue), () -> model.arm(cue));
+        if (luck(3)) {
+            both("halt", () -> desk.halt(0), () -> model.halt(0));
+        } else {
+            int ticks = roll(12);
+            both("go", () -> desk.go(0), () -> model.go(0));
+            both("tick", () -> desk.tick(ticks), () -> model.tick(ticks));
         }
     }
 
